@@ -325,9 +325,17 @@ public final class RegionHandles {
 
     /** Promise 30. */
     public int script() {
-        int answer = tape.hasForm() ? doLines() : FAULT_OF_FORM - tape.at;
+        boolean hasForm = tape.hasForm();
         tape.many = 0;
-        return answer;
+        if (!hasForm) return FAULT_OF_FORM - tape.at;
+        before.copyFrom(now);
+        for (int line = 0; line < tape.lines; line++) {
+            if (doLine(line) < 0) {
+                now.copyFrom(before);
+                return LINE_REFUSED - line;
+            }
+        }
+        return tape.lines;
     }
 
     /** Promise 31. */
@@ -460,17 +468,6 @@ public final class RegionHandles {
         if (!isBlockLength(element)) return false;
         int low = thought.ground.placeIn(now.regions, region, element);
         return low != NONE && planned.putOn(thought.ground, low, element);
-    }
-
-    private int doLines() {
-        before.copyFrom(now);
-        for (int line = 0; line < tape.lines; line++) {
-            if (doLine(line) < 0) {
-                now.copyFrom(before);
-                return LINE_REFUSED - line;
-            }
-        }
-        return tape.lines;
     }
 
     /** A line answers as its call does: below 0 if it is refused. */

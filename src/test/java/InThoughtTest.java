@@ -11,6 +11,7 @@ public final class InThoughtTest {
         promise22ByRoomAlone();
         promise23();
         promise23FromAbove();
+        promise23ByTheWay();
         promise24();
         promise25();
         promise26();
@@ -112,6 +113,23 @@ public final class InThoughtTest {
         due("23: free already", x.least(1, 8), 0);
         due("23: one goes", x.least(1, 12), 4);
         due("23: no more", x.least(1, 13), -2);
+    }
+
+    /** One block lies low and one high; which goes first, and so the budget, is by the way. */
+    private static void promise23ByTheWay() {
+        for (int way = 0; way < 2; way++) {
+            RegionHandles x = new RegionHandles();
+            x.region(12, way);
+            int[] lengths = way == 0 ? new int[] {2, 1, 3, 4} : new int[] {2, 4, 3, 1};
+            for (int length : lengths) x.block(0, length, 0);
+            x.free(100);
+            x.free(102);
+            x.advance();
+            due("23: low gap", x.lies(1), 100);
+            due("23: high gap", x.lies(10), 100);
+            due("23: the first to go", x.least(0, 5), way == 0 ? 1 : 4);
+            due("23: both", x.least(0, 7), 5);
+        }
     }
 
     private static void promise24() {

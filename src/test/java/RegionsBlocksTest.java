@@ -16,6 +16,7 @@ public final class RegionsBlocksTest {
         promise4();
         promise5();
         promise6InPlace();
+        promise6BetweenBlocks();
         promise6Elsewhere();
         promise6Refused();
         promise7FromBelow();
@@ -194,6 +195,22 @@ public final class RegionsBlocksTest {
         due("6: not across the region's end", x.grow(101, 1), 10);
         due("6: so it went", x.of(101, 0), 1);
         due("6: content went along", x.read(101, 3), 8);
+    }
+
+    private static void promise6BetweenBlocks() {
+        RegionHandles x = new RegionHandles();
+        x.region(30, 0);
+        x.block(0, 4, 0);
+        x.block(0, 2, 0);
+        x.block(0, 4, 0);
+        x.write(101, 0, 5);
+        x.write(101, 1, 6);
+        x.free(101);
+        x.advance();
+        due("6: all that is free above", x.grow(100, 2), 6);
+        due("6: there", x.of(100, 0), 0);
+        due("6: cells that were another's are 0", x.read(100, 4), 0);
+        due("6: cells that were another's are 0", x.read(100, 5), 0);
     }
 
     private static void promise6Elsewhere() {

@@ -16,6 +16,7 @@ public final class TextsImagesHoldersTest {
         promise30Long();
         promise31();
         promise32();
+        promise32SlotsUsedAnew();
         promise32Holders();
         promise33();
         promise34();
@@ -245,6 +246,21 @@ public final class TextsImagesHoldersTest {
         due("32: live again", x.read(100, 3), 33);
     }
 
+    private static void promise32SlotsUsedAnew() {
+        RegionHandles x = new RegionHandles();
+        run(x, "r 20 0;b 0 4 1;b 0 3 2;f 1");
+        x.image();
+        run(x, "e;e;f 0;e;b 0 2 3;b 0 5 4;f 1");
+        due("32: anew", x.of(200, 3), 3);
+        due("32: anew doomed by", x.slot(1, 3), 3);
+        x.back();
+        due("32: owner", x.of(100, 3), 1);
+        due("32: length", x.of(100, 1), 4);
+        due("32: doomed by", x.slot(1, 3), 0);
+        due("32: used", x.owner(2, 0), 3);
+        due("32: used by none", x.owner(4, 0), 0);
+    }
+
     private static void promise32Holders() {
         RegionHandles x = new RegionHandles();
         run(x, "r 20 0;b 0 4 1");
@@ -354,6 +370,7 @@ public final class TextsImagesHoldersTest {
         x.tag(200, 321);
         due("36: tagged", x.tells(0, 3), 321);
         x.pin(200, 1);
+        due("36: one pin", x.tells(0, 2), 1);
         x.pin(200, 1);
         due("36: pinned", x.tells(0, 2), 2);
         run(x, "u 0;u 0;f 0");
