@@ -137,11 +137,11 @@ final class Looks {
     private void plans() {
         for (int holder = 0; holder < 6; holder++) {
             for (int region = 0; region < 6; region++) tell("plan " + holder + " " + region, x.plan(holder, region));
-            for (int slot = 0; slot < 30; slot++) {
-                int handle = 100 * x.slot(slot, 1) + slot;
-                if (handle < 100) continue;
-                tell("told " + holder + " " + handle, x.told(holder, handle));
-            }
+        }
+        for (int slot = 0; slot < 30; slot++) {
+            int handle = 100 * tell("generation " + slot, x.slot(slot, 1)) + slot;
+            if (handle < 100) continue;
+            for (int holder = 0; holder < 6; holder++) tell("told " + holder + " " + handle, x.told(holder, handle));
         }
     }
 

@@ -325,7 +325,8 @@ public final class TextEdgesTest {
             x.image();
         });
         Consumer<RegionHandles> changed = kept.andThen(x -> {
-            Scenes.script(x, "r 50 0;r 60 1;o 1;o 2;i 0;i 5;e;u 2;f 2;f 7;f 5;e;b 2 7 0");
+            String text = "r 50 0;r 60 1;o 1;o 2;o 4;e;u 2;f 2;f 7;f 5;e;b 2 7 0;i 0;i 5";
+            due("32: the text is done", Scenes.script(x, text), 14);
             x.write(200, 0, 1);
             x.write(200, 4, 1);
             x.grow(200, 2);
@@ -341,8 +342,8 @@ public final class TextEdgesTest {
             x.grow(103, 5);
             x.block(0, 3, 3);
             for (int i = 0; i < 8; i++) x.block(4, 6, i);
-            for (int slot = 0; slot < 30; slot++) x.free(x.slot(slot, 0));
-            x.leave(4);
+            for (int slot = 2; slot < 12; slot++) x.free(x.slot(slot, 0));
+            due("32: the slot of a doomed one is another's", x.slot(6, 3), 7);
             x.advance();
             x.enter(4);
         });
