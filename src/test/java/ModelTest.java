@@ -2,12 +2,18 @@ import java.util.Random;
 
 /** Runs of 512 calls by a fixed seed, each answer compared with the model's; the calls lean to what can be. */
 public final class ModelTest {
-    private static final int RUNS = 1500;
+    private static final int RUNS = 4000;
     private static final int CALLS = 512;
     private static final int[] EXTREMES = {
         Integer.MIN_VALUE, Integer.MIN_VALUE + 1, -2000000000, -241, -101, -100, -61, -41, -31, -30, -7, -6, -2, -1,
         0, 1, 2, 5, 6, 7, 8, 9, 10, 29, 30, 39, 40, 41, 59, 60, 61, 99, 100, 101, 119, 120, 121, 129, 130, 239, 240,
         241, 255, 256, 499, 500, 999, 3000, Integer.MAX_VALUE - 1, Integer.MAX_VALUE};
+
+    /** How many calls the looks of each part of the state need at most; part 0 looks at nothing. */
+    private static final int[] LOOKS = {0, 83, 240, 120, 210, 330, 300};
+
+    /** How many calls stand between the run and the looks at most. */
+    private static final int LAST_CALLS = 90;
 
     private final Random random;
     private final RegionHandles x = new RegionHandles();
@@ -17,12 +23,18 @@ public final class ModelTest {
     private final int longest;
     /** How freely a number strays from those that can be: once in so many. */
     private final int stray;
+    /** Which part of the state is looked at when the run ends, and behind how many calls that is. */
+    private final int part;
+    private final int end;
+    private int calls = 0;
 
     private ModelTest(int seed) {
         random = new Random(seed);
         wild = seed % 10 == 0;
         stray = wild ? 2 : 25;
         longest = seed % 3 == 0 ? 4 : seed % 3 == 1 ? 12 : 40;
+        part = seed / 30 % LOOKS.length;
+        end = part == 0 ? CALLS : CALLS - LOOKS[part] - LAST_CALLS - random.nextInt(80);
     }
 
     public static void main(String[] args) {
@@ -37,18 +49,36 @@ public final class ModelTest {
 
     /** Null, or the call whose answer is not as due. */
     private String run() {
-        for (int call = 0; call < CALLS; call++) {
+        while (calls < end) {
             told.setLength(0);
-            int[] answers = wild && random.nextInt(3) == 0 ? anyCall(call) : likelyCall(call);
+            int[] answers = wild && random.nextInt(3) == 0 ? anyCall(calls) : likelyCall(calls);
             if (answers[0] != answers[1]) {
-                return "call " + call + " " + told + " answered " + answers[0] + ", due is " + answers[1];
-            }
-            if (call % 64 == 63) {
-                String fault = difference();
-                if (fault != null) return "behind call " + call + " " + told + ": " + fault;
+                return "call " + calls + " " + told + " answered " + answers[0] + ", due is " + answers[1];
             }
         }
-        return null;
+        if (part == 0) return null;
+        int[] answers = lastCalls();
+        String fault = answers[0] == answers[1] ? difference() : "answered " + answers[0] + ", due is " + answers[1];
+        if (calls > CALLS) return calls + " calls of one object";
+        return fault == null ? null : "behind call " + end + " " + told + ": " + fault;
+    }
+
+    /** What brings an earlier state again, or nothing. */
+    private int[] lastCalls() {
+        told.setLength(0);
+        switch (random.nextInt(3)) {
+            case 0: return say("back", x.back(), m.back());
+            case 1: return refusedText();
+            default: return new int[] {0, 0};
+        }
+    }
+
+    private int[] refusedText() {
+        if (m.count(6) > 0) say("script", x.script(), m.script());
+        StringBuilder text = new StringBuilder();
+        while (text.length() < 60) text.append(line()).append(';');
+        text.append("f 99");
+        return feedAndScript(text.toString());
     }
 
     private int upTo(int high) {
@@ -82,6 +112,7 @@ public final class ModelTest {
     }
 
     private int[] say(String call, int got, int due, int... numbers) {
+        calls++;
         told.append(call);
         for (int n : numbers) told.append(' ').append(n);
         return new int[] {got, due};
@@ -221,7 +252,10 @@ public final class ModelTest {
         return say("told", x.told(holder, h), m.told(holder, h), holder, h);
     }
 
+    /** A row that the run has no calls left for is not made. */
     private void fillRow(int holder, int n, boolean plan, int h) {
+        if (calls + n + 2 > end) return;
+        calls += n + 1;
         x.row(holder, n);
         m.row(holder, n);
         for (int i = 0; i < n; i++) {
@@ -239,6 +273,12 @@ public final class ModelTest {
 
     private int[] textCall() {
         String text = text();
+        if (calls + text.length() + 1 > end) text = text.substring(0, end - calls - 1);
+        return feedAndScript(text);
+    }
+
+    private int[] feedAndScript(String text) {
+        calls += text.length();
         told.append('"').append(text).append("\" ");
         for (int i = 0; i < text.length(); i++) {
             int letter = text.charAt(i);
@@ -309,9 +349,9 @@ public final class ModelTest {
                 int i = upTo(10);
                 return say("put", x.put(holder, i, h), m.put(holder, i, h), holder, i, h);
             }
-            case 4: return random.nextInt(4) > 0 ? say("count", x.count(7), m.count(7))
+            case 4: return random.nextBoolean() ? say("count", x.count(7), m.count(7))
                 : say("image", x.image(), m.image());
-            case 5: return random.nextInt(4) > 0 ? say("count", x.count(1), m.count(1))
+            case 5: return random.nextInt(3) > 0 ? say("count", x.count(1), m.count(1))
                 : say("back", x.back(), m.back());
             default: {
                 int as = upTo(3);
@@ -367,42 +407,85 @@ public final class ModelTest {
 
     /** Null, or the first thing at which the two are not the same. */
     private String difference() {
-        for (int what = 0; what < 8; what++) {
-            if (x.count(what) != m.count(what)) return "count " + what;
+        switch (part) {
+            case 1: return differenceInAll();
+            case 2: return differenceOfPlaces();
+            case 3: return differenceOfSlots();
+            case 4: return differenceOfBlocks();
+            case 5: return differenceOfCells();
+            case 6: return differenceOfDoomed();
+            default: return null;
         }
-        for (int cell = 0; cell < 240; cell++) {
-            if (x.lies(cell) != m.lies(cell)) return "lies " + cell;
+    }
+
+    private boolean differs(int got, int due) {
+        calls++;
+        return got != due;
+    }
+
+    private String differenceInAll() {
+        for (int what = 0; what < 8; what++) {
+            if (differs(x.count(what), m.count(what))) return "count " + what;
         }
         for (int k = 0; k <= m.count(3); k++) {
-            if (x.tagged(k) != m.tagged(k)) return "tagged " + k;
+            if (differs(x.tagged(k), m.tagged(k))) return "tagged " + k;
         }
         for (int owner = 0; owner < 10; owner++) {
             for (int what = 0; what < 4; what++) {
-                if (x.owner(owner, what) != m.owner(owner, what)) return "owner " + owner + " " + what;
+                if (differs(x.owner(owner, what), m.owner(owner, what))) return "owner " + owner + " " + what;
             }
         }
         for (int what = 0; what < 3; what++) {
-            if (x.epochs(what) != m.epochs(what)) return "epochs " + what;
-        }
-        for (int slot = 0; slot < 30; slot++) {
-            String fault = slotDifference(slot);
-            if (fault != null) return fault;
+            if (differs(x.epochs(what), m.epochs(what))) return "epochs " + what;
         }
         return null;
     }
 
-    private String slotDifference(int slot) {
-        for (int what = 0; what < 4; what++) {
-            if (x.slot(slot, what) != m.slot(slot, what)) return "slot " + slot + " " + what;
+    private String differenceOfPlaces() {
+        for (int cell = 0; cell < 240; cell++) {
+            if (differs(x.lies(cell), m.lies(cell))) return "lies " + cell;
         }
-        int h = m.slot(slot, 0);
-        for (int what = 0; what < 6; what++) {
-            if (x.of(h, what) != m.of(h, what)) return "of " + h + " " + what;
+        return null;
+    }
+
+    private String differenceOfSlots() {
+        for (int slot = 0; slot < 30; slot++) {
+            for (int what = 0; what < 4; what++) {
+                if (differs(x.slot(slot, what), m.slot(slot, what))) return "slot " + slot + " " + what;
+            }
         }
-        int doomed = 100 * m.slot(slot, 1) + slot;
-        for (int i = 0; i <= 40; i++) {
-            if (x.read(h, i) != m.read(h, i)) return "read " + h + " " + i;
-            if (x.peek(i % 6, doomed, i) != m.peek(i % 6, doomed, i)) return "peek " + doomed + " " + i;
+        return null;
+    }
+
+    private String differenceOfBlocks() {
+        for (int slot = 0; slot < 30; slot++) {
+            int h = m.slot(slot, 0);
+            if (differs(x.slot(slot, 0), h)) return "slot " + slot;
+            for (int what = 0; what < 6; what++) {
+                if (differs(x.of(h, what), m.of(h, what))) return "of " + h + " " + what;
+            }
+        }
+        return null;
+    }
+
+    private String differenceOfCells() {
+        for (int slot = 0; slot < 30; slot++) {
+            int h = m.slot(slot, 0);
+            for (int i = 0; i <= Math.max(0, m.of(h, 1)); i++) {
+                if (differs(x.read(h, i), m.read(h, i))) return "read " + h + " " + i;
+            }
+        }
+        return null;
+    }
+
+    private String differenceOfDoomed() {
+        for (Model.Block b : m.w.blocks) {
+            if (b.live) continue;
+            int h = b.handle();
+            for (int i = 0; i <= b.length; i++) {
+                int reader = (h + i) % 6;
+                if (differs(x.peek(reader, h, i), m.peek(reader, h, i))) return "peek " + reader + " " + h + " " + i;
+            }
         }
         return null;
     }
